@@ -140,7 +140,7 @@ final class ByAllWaysTest {
 
     private static void oneRun(int run) {
         Random random = new Random(run);
-        PartsFlow x = new PartsFlow();
+        Counted x = new Counted();
         Model m = new Model();
         int building = random.nextInt(100);
         int variables = random.nextInt(24);
@@ -150,12 +150,13 @@ final class ByAllWaysTest {
         for (int call = 0; call < building; call++) {
             oneCall(run, random, x, m, 1 + random.nextInt(2));
         }
-        for (int call = variables + building; call < 400; call++) {
+        // The dearest kind of oneCall makes two calls.
+        while (x.calls() <= Counted.MOST_CALLS - 2) {
             oneCall(run, random, x, m, random.nextInt(run % 2 == 0 ? 40 : 12));
         }
     }
 
-    private static void oneCall(int run, Random random, PartsFlow x, Model m, int kind) {
+    private static void oneCall(int run, Random random, Counted x, Model m, int kind) {
         int point = random.nextInt(m.points.size() + 3) - 1;
         int variable = random.nextInt(m.variables.size() + 2) - (random.nextInt(10) == 0 ? 1 : 0);
         String call = "run " + run + ": " + kind + " at " + point + ", " + variable;

@@ -1,29 +1,78 @@
-/** Promise 6: without. */
+/**
+ * Promise 6: "The parts of a variable that may be without a value ahead of a point, as bits; 0 for no such point or
+ * variable."
+ */
 final class Promise06WithoutTest {
     public static void main(String[] args) {
         noSuchPointOrVariable();
+        noWayComesToIt();
+        bitsOfEachPart();
         alongOneWay();
         byAllWays();
         roundALoop();
         Due.end();
     }
 
+    /** With none, one and all points and variables there: the last of each answers, the first behind it does not. */
     private static void noSuchPointOrVariable() {
-        PartsFlow x = new PartsFlow();
+        for (int points : new int[] {0, 1, 2, 120}) {
+            for (int variables : new int[] {0, 1, 2, 20}) {
+                Counted x = new Counted();
+                for (int number = 0; number < variables; number++) {
+                    x.variable(8, false, false);
+                }
+                for (int number = 0; number < points; number++) {
+                    x.point(0, 0, 0, 0);
+                }
+                for (int point : Edge.outside(0, points - 1)) {
+                    Due.same("without(" + point + ", 0)", x.without(point, 0), 0);
+                    Due.same("without(" + point + ", last)", x.without(point, variables - 1), 0);
+                    Due.same("without(" + point + ", same)", x.without(point, point), 0);
+                }
+                for (int variable : Edge.outside(0, variables - 1)) {
+                    Due.same("without(0, " + variable + ")", x.without(0, variable), 0);
+                    Due.same("without(last, " + variable + ")", x.without(points - 1, variable), 0);
+                }
+                int due = points > 0 && variables > 0 ? 255 : 0;
+                Due.same("without(0, 0)", x.without(0, 0), due);
+                Due.same("without of the last", x.without(points - 1, variables - 1), due);
+                Due.same("without of the last", x.without(0, variables - 1), due);
+                Due.same("without of the last", x.without(points - 1, 0), due);
+            }
+        }
+    }
+
+    private static void noWayComesToIt() {
+        Counted x = new Counted();
         x.variable(8, false, false);
         x.point(0, 0, 0, 0);
         x.point(0, 0, 0, 0);
-        for (int wrong : new int[] {2, 20, 119, 120, -1, Integer.MIN_VALUE, Integer.MAX_VALUE}) {
-            Due.same("without(" + wrong + ", 0)", x.without(wrong, 0), 0);
-            Due.same("without(0, " + wrong + ")", x.without(0, wrong), 0);
-        }
-        Due.same("without(0, 0)", x.without(0, 0), 255);
+        Due.same("without(1, 0)", x.without(1, 0), 255);
         x.next(0, -1, -1);
         Due.same("without(1, 0), no way comes to it", x.without(1, 0), 0);
+        Due.same("without(0, 0)", x.without(0, 0), 255);
+    }
+
+    /** Bits of the variable's parts alone, the lowest for part 0. */
+    private static void bitsOfEachPart() {
+        for (int parts = 1; parts <= 8; parts++) {
+            for (int part = 0; part < parts; part++) {
+                Counted x = new Counted();
+                x.variable(8, false, false);
+                x.variable(parts, false, true);
+                x.variable(8, false, false);
+                x.point(2, 1, part, 1);
+                x.point(0, 0, 0, 0);
+                Due.same("without(0, 1)", x.without(0, 1), 0);
+                Due.same("without(1, 1) of part " + part + " of " + parts, x.without(1, 1), 1 << part);
+                Due.same("without(1, 0)", x.without(1, 0), 255);
+                Due.same("without(1, 2)", x.without(1, 2), 255);
+            }
+        }
     }
 
     private static void alongOneWay() {
-        PartsFlow x = new PartsFlow();
+        Counted x = new Counted();
         x.variable(4, false, false);
         x.variable(4, false, true);
         x.point(1, 0, 1, 2);
@@ -42,7 +91,7 @@ final class Promise06WithoutTest {
     }
 
     private static void byAllWays() {
-        PartsFlow x = new PartsFlow();
+        Counted x = new Counted();
         x.variable(3, false, true);
         x.point(0, 0, 0, 0);
         x.point(2, 0, 0, 1);
@@ -58,7 +107,7 @@ final class Promise06WithoutTest {
     }
 
     private static void roundALoop() {
-        PartsFlow x = new PartsFlow();
+        Counted x = new Counted();
         x.variable(2, false, true);
         x.point(3, 0, 0, 2);
         x.point(2, 0, 1, 1);

@@ -1,29 +1,75 @@
-/** Promise 7: having. */
+/** Promise 7: "Those that may have one.": read with promise 6, so 0 for no such point or variable. */
 final class Promise07HavingTest {
     public static void main(String[] args) {
         noSuchPointOrVariable();
+        noWayComesToIt();
+        bitsOfEachPart();
         alongOneWay();
         byAllWays();
         wholeFlowOf160Parts();
         Due.end();
     }
 
+    /** With none, one and all points and variables there: the last of each answers, the first behind it does not. */
     private static void noSuchPointOrVariable() {
-        PartsFlow x = new PartsFlow();
+        for (int points : new int[] {0, 1, 2, 120}) {
+            for (int variables : new int[] {0, 1, 2, 20}) {
+                Counted x = new Counted();
+                for (int number = 0; number < variables; number++) {
+                    x.variable(8, false, true);
+                }
+                for (int number = 0; number < points; number++) {
+                    x.point(0, 0, 0, 0);
+                }
+                for (int point : Edge.outside(0, points - 1)) {
+                    Due.same("having(" + point + ", 0)", x.having(point, 0), 0);
+                    Due.same("having(" + point + ", last)", x.having(point, variables - 1), 0);
+                    Due.same("having(" + point + ", same)", x.having(point, point), 0);
+                }
+                for (int variable : Edge.outside(0, variables - 1)) {
+                    Due.same("having(0, " + variable + ")", x.having(0, variable), 0);
+                    Due.same("having(last, " + variable + ")", x.having(points - 1, variable), 0);
+                }
+                int due = points > 0 && variables > 0 ? 255 : 0;
+                Due.same("having(0, 0)", x.having(0, 0), due);
+                Due.same("having of the last", x.having(points - 1, variables - 1), due);
+                Due.same("having of the last", x.having(0, variables - 1), due);
+                Due.same("having of the last", x.having(points - 1, 0), due);
+            }
+        }
+    }
+
+    private static void noWayComesToIt() {
+        Counted x = new Counted();
         x.variable(8, false, true);
         x.point(0, 0, 0, 0);
         x.point(0, 0, 0, 0);
-        for (int wrong : new int[] {2, 20, 119, 120, -1, Integer.MIN_VALUE, Integer.MAX_VALUE}) {
-            Due.same("having(" + wrong + ", 0)", x.having(wrong, 0), 0);
-            Due.same("having(0, " + wrong + ")", x.having(0, wrong), 0);
-        }
-        Due.same("having(0, 0)", x.having(0, 0), 255);
+        Due.same("having(1, 0)", x.having(1, 0), 255);
         x.next(0, -1, -1);
         Due.same("having(1, 0), no way comes to it", x.having(1, 0), 0);
+        Due.same("having(0, 0)", x.having(0, 0), 255);
+    }
+
+    /** Bits of the variable's parts alone, the lowest for part 0. */
+    private static void bitsOfEachPart() {
+        for (int parts = 1; parts <= 8; parts++) {
+            for (int part = 0; part < parts; part++) {
+                Counted x = new Counted();
+                x.variable(8, false, true);
+                x.variable(parts, false, false);
+                x.variable(8, false, true);
+                x.point(1, 1, part, 1);
+                x.point(0, 0, 0, 0);
+                Due.same("having(0, 1)", x.having(0, 1), 0);
+                Due.same("having(1, 1) of part " + part + " of " + parts, x.having(1, 1), 1 << part);
+                Due.same("having(1, 0)", x.having(1, 0), 255);
+                Due.same("having(1, 2)", x.having(1, 2), 255);
+            }
+        }
     }
 
     private static void alongOneWay() {
-        PartsFlow x = new PartsFlow();
+        Counted x = new Counted();
         x.variable(4, false, false);
         x.variable(4, true, true);
         x.point(1, 0, 1, 2);
@@ -42,7 +88,7 @@ final class Promise07HavingTest {
     }
 
     private static void byAllWays() {
-        PartsFlow x = new PartsFlow();
+        Counted x = new Counted();
         x.variable(3, false, false);
         x.point(0, 0, 0, 0);
         x.point(1, 0, 0, 1);
@@ -59,7 +105,7 @@ final class Promise07HavingTest {
     }
 
     private static void wholeFlowOf160Parts() {
-        PartsFlow x = new PartsFlow();
+        Counted x = new Counted();
         for (int variable = 0; variable < 20; variable++) {
             x.variable(8, false, false);
         }

@@ -1,7 +1,8 @@
-/** Promise 8: fault. */
+/** Promise 8: "The fault of a point: 0 none, 1 to 3; -1 if it is no point." */
 final class Promise08FaultTest {
     public static void main(String[] args) {
         noSuchPoint();
+        noPointAndNoWay();
         useAndMove();
         giveOnce();
         giveInParts();
@@ -9,24 +10,47 @@ final class Promise08FaultTest {
         Due.end();
     }
 
+    /** With none, one and all points there: the last answers 0 to 3, the first behind it and those ahead of 0 -1. */
     private static void noSuchPoint() {
-        PartsFlow x = new PartsFlow();
-        Due.same("fault(0) without points", x.fault(0), -1);
-        x.point(0, 0, 0, 0);
-        Due.same("fault(0)", x.fault(0), 0);
-        for (int wrong : new int[] {1, 119, 120, -1, Integer.MIN_VALUE, Integer.MAX_VALUE}) {
-            Due.same("fault(" + wrong + ")", x.fault(wrong), -1);
+        for (int many : new int[] {0, 1, 2, 119, 120}) {
+            Counted x = new Counted();
+            x.variable(2, true, false);
+            for (int number = 0; number < many; number++) {
+                x.point(number == many - 1 ? 1 : 0, 0, 0, 1);
+            }
+            for (int point : Edge.outside(0, many - 1)) {
+                Due.same("fault(" + point + ") of " + many, x.fault(point), -1);
+            }
+            for (int point = 0; point < many; point++) {
+                Due.same("fault(" + point + ") of " + many, x.fault(point), point == many - 1 ? 3 : 0);
+            }
+            x.clear();
+            Due.same("fault(0) after clear", x.fault(0), -1);
+            Due.same("fault of the last after clear", x.fault(many - 1), -1);
         }
     }
 
-    private static void faults(PartsFlow x, int... due) {
+    /** No point is -1, and a point that no way comes to is 0. */
+    private static void noPointAndNoWay() {
+        Counted x = new Counted();
+        x.variable(1, false, false);
+        x.point(0, 0, 0, 0);
+        x.next(0, -1, -1);
+        Due.same("fault(1), no point yet", x.fault(1), -1);
+        x.point(3, 0, 0, 1);
+        Due.same("fault(1), no way comes to it", x.fault(1), 0);
+        x.next(0, 1, -1);
+        Due.same("fault(1), a way comes to it", x.fault(1), 1);
+    }
+
+    private static void faults(Counted x, int... due) {
         for (int point = 0; point < due.length; point++) {
             Due.same("fault(" + point + ")", x.fault(point), due[point]);
         }
     }
 
     private static void useAndMove() {
-        PartsFlow x = new PartsFlow();
+        Counted x = new Counted();
         x.variable(3, false, false);
         x.point(3, 0, 0, 1);
         x.point(2, 0, 2, 1);
@@ -45,7 +69,7 @@ final class Promise08FaultTest {
     }
 
     private static void giveOnce() {
-        PartsFlow x = new PartsFlow();
+        Counted x = new Counted();
         x.variable(2, true, false);
         x.variable(1, true, true);
         x.point(1, 0, 0, 2);
@@ -62,7 +86,7 @@ final class Promise08FaultTest {
         x.point(2, 1, 0, 1);
         x.point(1, 1, 0, 1);
         faults(x, 0, 2, 0, 2, 0, 0, 0, 0, 0, 0, 2, 0, 0);
-        PartsFlow loop = new PartsFlow();
+        Counted loop = new Counted();
         loop.variable(2, true, false);
         loop.point(1, 0, 0, 2);
         loop.next(0, 0, 1);
@@ -74,7 +98,7 @@ final class Promise08FaultTest {
     }
 
     private static void giveInParts() {
-        PartsFlow x = new PartsFlow();
+        Counted x = new Counted();
         x.variable(8, true, false);
         x.variable(8, false, false);
         x.point(1, 0, 0, 7);
@@ -87,7 +111,7 @@ final class Promise08FaultTest {
     }
 
     private static void noWayNoFault() {
-        PartsFlow x = new PartsFlow();
+        Counted x = new Counted();
         x.variable(2, true, false);
         x.point(0, 0, 0, 0);
         x.point(3, 0, 0, 1);
