@@ -9,6 +9,7 @@ final class TermsLastDoingTest {
         theLastOfTwo();
         theLastOfManyFarBack();
         aWayThatComesByTwice();
+        twoWaysAbreast();
         Due.end();
     }
 
@@ -113,6 +114,22 @@ final class TermsLastDoingTest {
                 x.next(0, -1, -1);
                 Due.same("count(1) of what was " + loop, x.count(1), 1);
                 due("at 0 alone, of what was " + loop, x, 0, before, 1 - before);
+            }
+        }
+    }
+
+    /** Odd points one way, even ones another, the last of each gives a part of its own, and both lead back to 0. */
+    private static void twoWaysAbreast() {
+        for (int many = 3; many <= 120; many++) {
+            Counted x = new Counted();
+            x.variable(2, false, false);
+            for (int number = 0; number < many; number++) {
+                boolean last = number >= many - 2;
+                x.point(last ? 1 : 0, 0, number % 2, 1);
+                x.next(number, last ? 0 : number + 2, number == 0 ? 1 : -1);
+            }
+            for (int number = 0; number < many; number++) {
+                due(number + " of " + many + ", two abreast", x, number, 3, 3);
             }
         }
     }
